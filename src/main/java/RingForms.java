@@ -313,15 +313,12 @@ public final class RingForms {
             return minus ? -1 : 1;
         }
 
-        static boolean isSquareAt(long a, int place) {
-            if (place == LINE) {
-                return a > 0;
-            }
-            if (hasOddPower(a, place)) {
+        static boolean isSquareAtPrime(long a, int prime) {
+            if (hasOddPower(a, prime)) {
                 return false;
             }
-            long u = unit(a, place);
-            return place == 2 ? (u & 7) == 1 : isResidue(u, place);
+            long u = unit(a, prime);
+            return prime == 2 ? (u & 7) == 1 : isResidue(u, prime);
         }
 
         private static boolean isThreeOfFour(long u) {
@@ -447,11 +444,11 @@ public final class RingForms {
                 case 1:
                     return false;
                 case 2:
-                    return Places.isSquareAt(-product(), place);
+                    return Places.isSquareAtPrime(-product(), place);
                 case 3:
                     return signsAt(place) == Places.signAt(-1, -product(), place);
                 case 4:
-                    return !Places.isSquareAt(product(), place)
+                    return !Places.isSquareAtPrime(product(), place)
                             || signsAt(place) == Places.signAt(-1, -1, place);
                 default:
                     return true;

@@ -16,15 +16,10 @@ public final class AlikeTest {
         DUE.end();
     }
 
-    private static void put(RingForms forms, int shelf, int... row) {
-        int[] five = Arrays.copyOf(row, 5);
-        forms.form(shelf, row.length, five[0], five[1], five[2], five[3], five[4]);
-    }
-
     private static void alikeIs(int want, int[] one, int[] other) {
         RingForms forms = new RingForms();
-        put(forms, 1, one);
-        put(forms, 3, other);
+        Due.put(forms, 1, one);
+        Due.put(forms, 3, other);
         String what = Arrays.toString(one) + " and " + Arrays.toString(other);
         DUE.is("alike: " + what, forms.alike(1, 3), want);
         DUE.is("alike the other way: " + what, forms.alike(3, 1), want);
@@ -60,8 +55,8 @@ public final class AlikeTest {
                     if (a == 0 || b == 0 || c == 0 || Math.abs(a * b * c) > 400) {
                         continue;
                     }
-                    put(forms, 0, a, b);
-                    put(forms, 1, c, a * b * c);
+                    Due.put(forms, 0, a, b);
+                    Due.put(forms, 1, c, a * b * c);
                     DUE.is("alike: " + a + ", " + b + " and " + c + ", " + a * b * c, forms.alike(0, 1),
                             forms.takes(0, c));
                 }
@@ -84,6 +79,9 @@ public final class AlikeTest {
         alikeIs(0, new int[] {1, 2}, new int[] {397, 389});
         alikeIs(0, new int[] {1, 2, 2}, new int[] {1, 383, 383});
         alikeIs(1, new int[] {1, 2}, new int[] {3, 6});
+        // Of one D and one H at each prime, but not as many, or not as many above 0.
+        alikeIs(0, new int[] {1}, new int[] {1, -1, -1, -1, -1});
+        alikeIs(0, new int[] {1, 1, 1, 1}, new int[] {-1, -1, -1, -1});
         // At 2 one H, at 7 and 11 not.
         alikeIs(0, new int[] {1, 77, -1}, new int[] {7, 11, -1});
     }
@@ -128,7 +126,7 @@ public final class AlikeTest {
         }
         boolean alike = one.length == other.length && above == 0 && isSquare(both);
         for (int p : PLACES) {
-            alike &= p == 0 || !alike || signs(one, p) == signs(other, p);
+            alike &= p == 0 || !alike || Oracle.signs(one, p) == Oracle.signs(other, p);
         }
         return alike;
     }
@@ -136,16 +134,6 @@ public final class AlikeTest {
     private static boolean isSquare(long number) {
         long root = number < 0 ? 0 : Math.round(Math.sqrt((double) number));
         return root * root == number;
-    }
-
-    private static int signs(int[] row, int place) {
-        int signs = 1;
-        for (int i = 0; i < row.length; i++) {
-            for (int k = 0; k < i; k++) {
-                signs *= Oracle.signByExponents(row[k], row[i], place);
-            }
-        }
-        return signs;
     }
 
     private static void wrongInputs() {

@@ -1,3 +1,5 @@
+import java.util.Arrays;
+
 /** Counts answers that are not as due; every test of the project ends with end(). */
 final class Due {
     private static final int MOST_PRINTED = 40;
@@ -17,6 +19,12 @@ final class Due {
 
     void holds(String what, boolean fact) {
         is(what, fact ? 1 : 0, 1);
+    }
+
+    /** Puts a row of coefficients on a shelf; what is beyond it is 0. */
+    static int put(RingForms forms, int shelf, int... row) {
+        int[] five = Arrays.copyOf(row, 5);
+        return forms.form(shelf, row.length, five[0], five[1], five[2], five[3], five[4]);
     }
 
     void end() {

@@ -22,9 +22,7 @@ public final class NoughtTest {
     }
 
     private static void put(RingForms forms, int shelf, int... row) {
-        int[] five = Arrays.copyOf(row, 5);
-        DUE.is("form " + Arrays.toString(row),
-                forms.form(shelf, row.length, five[0], five[1], five[2], five[3], five[4]), row.length);
+        DUE.is("form " + Arrays.toString(row), Due.put(forms, shelf, row), row.length);
     }
 
     private static int[] randomRow(Random random, int size, int most) {

@@ -68,6 +68,17 @@ final class Oracle {
         return exponent % 2 == 0 ? 1 : -1;
     }
 
+    /** H of coefficients. */
+    static int signs(int[] row, int place) {
+        int signs = 1;
+        for (int i = 0; i < row.length; i++) {
+            for (int k = 0; k < i; k++) {
+                signs *= signByExponents(row[k], row[i], place);
+            }
+        }
+        return signs;
+    }
+
     /**
      * Whether coefficients times squares are 0 modulo a power of p, not all numbers multiples of p. The power is
      * beyond twice what Hensel's step needs for these coefficients, so the answer is that for each power.

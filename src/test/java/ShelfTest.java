@@ -1,4 +1,5 @@
 import java.math.BigInteger;
+import java.util.Arrays;
 import java.util.List;
 import java.util.Random;
 
@@ -28,16 +29,11 @@ public final class ShelfTest {
                 row[i] = (1 + random.nextInt(400)) * (random.nextBoolean() ? 1 : -1);
             }
             kept[shelf] = row;
-            DUE.is("form of " + row.length, put(forms, shelf, row), row.length);
+            DUE.is("form of " + row.length, Due.put(forms, shelf, row), row.length);
             for (int i = 0; i < 4; i++) {
                 look(forms, i, kept[i], round % 20 == 0);
             }
         }
-    }
-
-    private static int put(RingForms forms, int shelf, int[] row) {
-        int[] five = java.util.Arrays.copyOf(row, 5);
-        return forms.form(shelf, row.length, five[0], five[1], five[2], five[3], five[4]);
     }
 
     private static void look(RingForms forms, int shelf, int[] row, boolean signsToo) {
@@ -55,7 +51,7 @@ public final class ShelfTest {
         lookAtFree(forms.whole(shelf, 1), product);
         if (signsToo) {
             for (int place : PLACES) {
-                DUE.is("hold(" + shelf + ", " + place + ")", forms.hold(shelf, place), signs(row, place));
+                DUE.is("hold(" + shelf + ", " + place + ")", forms.hold(shelf, place), Oracle.signs(row, place));
             }
         }
     }
@@ -70,28 +66,18 @@ public final class ShelfTest {
         }
     }
 
-    private static int signs(int[] row, int place) {
-        int signs = 1;
-        for (int i = 0; i < row.length; i++) {
-            for (int k = 0; k < i; k++) {
-                signs *= Oracle.signByExponents(row[k], row[i], place);
-            }
-        }
-        return signs;
-    }
-
     private static void refusedFormsChangeNothing() {
         RingForms forms = new RingForms();
         int[] row = {3, -5, 7};
         int[] wrong = {0, 401, -401, Integer.MIN_VALUE, Integer.MAX_VALUE};
-        put(forms, 1, row);
+        Due.put(forms, 1, row);
         for (int w : wrong) {
             for (int n = 1; n <= 5; n++) {
                 for (int i = 0; i < n; i++) {
                     int[] bad = {2, 2, 2, 2, 2};
                     bad[i] = w;
                     String call = "form of " + n + " with " + w + " at " + i;
-                    DUE.is(call, put(forms, 1, java.util.Arrays.copyOf(bad, n)), RingForms.BAD);
+                    DUE.is(call, Due.put(forms, 1, Arrays.copyOf(bad, n)), RingForms.BAD);
                     look(forms, 1, row, false);
                 }
             }
@@ -122,12 +108,12 @@ public final class ShelfTest {
     private static void edgesOfCoefficients() {
         RingForms forms = new RingForms();
         int[] greatest = {400, 400, 400, 400, -400};
-        DUE.is("form of the greatest", put(forms, 0, greatest), 5);
+        DUE.is("form of the greatest", Due.put(forms, 0, greatest), 5);
         look(forms, 0, greatest, true);
         DUE.is("D of the greatest", forms.whole(0, 0), -10240000000000L);
         DUE.is("FREE of the greatest", forms.whole(0, 1), -1);
         int[] primes = {397, 389, 383, 379, 373};
-        put(forms, 0, primes);
+        Due.put(forms, 0, primes);
         look(forms, 0, primes, true);
         DUE.is("FREE of primes", forms.whole(0, 1), 397L * 389 * 383 * 379 * 373);
         DUE.is("H of one alone", new RingForms().hold(0, 397), 1);

@@ -11,7 +11,9 @@ public final class SolutionTest {
         {1, 1, -1}, {1, 1, -2}, {1, -1, 1}, {-1, 1, 1}, {1, 1, -5}, {2, 3, -5}, {3, -2, -1}, {1, -4, 9},
         {4, 9, -25}, {1, 1, -3}, {1, 1, 1}, {-2, -3, -5}, {399, -398, -1}, {400, -400, 1}, {-400, 400, -400},
         {400, -1, -1}, {1, 400, -400}, {7, -5, -3}, {6, -11, 5}, {100, -1, 396}, {1, -30, 6},
-        {-1, 2, 400}, {1, -225, 4}, {1, 225, -361}, {13, -17, 29}, {361, -400, 39}, {1, -2, -7}, {2, -2, 397}};
+        {-1, 2, 400}, {1, -225, 4}, {1, 225, -361}, {13, -17, 29}, {361, -400, 39}, {1, -2, -7}, {2, -2, 397},
+        // With solutions 30, 2, 1 and 31, 2, 1 in other orders, for the edges of the numbers.
+        {1, -200, -100}, {-200, 1, -100}, {-200, -100, 1}, {1, -240, -1}, {-240, 1, -1}, {-240, -1, 1}};
 
     public static void main(String[] args) {
         worthOfNumbers();
@@ -27,9 +29,7 @@ public final class SolutionTest {
 
     private static RingForms with(int shelf, int... row) {
         RingForms forms = new RingForms();
-        int[] five = Arrays.copyOf(row, 5);
-        DUE.is("form " + Arrays.toString(row),
-                forms.form(shelf, row.length, five[0], five[1], five[2], five[3], five[4]), row.length);
+        DUE.is("form " + Arrays.toString(row), Due.put(forms, shelf, row), row.length);
         return forms;
     }
 
