@@ -48,13 +48,13 @@ public final class AlikeTest {
 
     /** Alike forms take the same numbers; of one and two coefficients only alike forms of one D do. */
     private static void formsThatTakeOtherNumbers() {
-        RingForms forms = new RingForms();
         for (int a = -11; a <= 11; a++) {
             for (int b = -11; b <= 11; b++) {
                 for (int c = -7; c <= 7; c++) {
                     if (a == 0 || b == 0 || c == 0 || Math.abs(a * b * c) > 400) {
                         continue;
                     }
+                    RingForms forms = new RingForms();
                     Due.put(forms, 0, a, b);
                     Due.put(forms, 1, c, a * b * c);
                     DUE.is("alike: " + a + ", " + b + " and " + c + ", " + a * b * c, forms.alike(0, 1),

@@ -4,15 +4,14 @@ public final class FreeTest {
 
     public static void main(String[] args) {
         Due due = new Due();
-        RingForms forms = new RingForms();
         int[] due1 = freeOfAll();
         for (int a = 1; a <= LIMIT; a += a < 3000 || a > LIMIT - 3000 ? 1 : 37) {
-            due.is("free(" + a + ")", forms.free(a), due1[a]);
-            due.is("free(" + -a + ")", forms.free(-a), -due1[a]);
+            due.is("free(" + a + ")", new RingForms().free(a), due1[a]);
+            due.is("free(" + -a + ")", new RingForms().free(-a), -due1[a]);
         }
         int[] bad = {0, LIMIT + 1, -LIMIT - 1, Integer.MAX_VALUE, Integer.MIN_VALUE};
         for (int a : bad) {
-            due.is("free(" + a + ")", forms.free(a), 0);
+            due.is("free(" + a + ")", new RingForms().free(a), 0);
         }
         due.end();
     }

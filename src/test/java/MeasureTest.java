@@ -14,9 +14,9 @@ public final class MeasureTest {
     }
 
     private static void measures() {
-        RingForms forms = new RingForms();
         for (int x = -30; x <= 30; x += 5) {
             for (int y = -30; y <= 30; y += 4) {
+                RingForms forms = new RingForms();
                 for (int z = -30; z <= 30; z += 3) {
                     int great = Math.max(Math.max(Math.abs(x), Math.abs(y)), Math.abs(z));
                     int wide = great + Math.abs(x) + Math.abs(y) + Math.abs(z);
@@ -27,6 +27,7 @@ public final class MeasureTest {
                 }
             }
         }
+        RingForms forms = new RingForms();
         is(forms, 0, 0, 0, 0, 0);
         is(forms, 1, 0, 0, 0, 0);
         is(forms, 2, 0, 0, 0, 0);

@@ -36,8 +36,8 @@ public final class NoughtTest {
     private static void goesMeansSolutionsThere() {
         Random random = new Random(9);
         int[] primes = {2, 3, 5, 7, 11, 13};
-        RingForms forms = new RingForms();
         for (int round = 0; round < 2500; round++) {
+            RingForms forms = new RingForms();
             int[] row = randomRow(random, 1 + round % 5, round % 2 == 0 ? 7 : 14);
             put(forms, 3, row);
             for (int p : primes) {
@@ -51,8 +51,8 @@ public final class NoughtTest {
 
     private static void barsAreThePlacesThatDoNotGo() {
         Random random = new Random(11);
-        RingForms forms = new RingForms();
         for (int round = 0; round < 3000; round++) {
+            RingForms forms = new RingForms();
             int[] row = randomRow(random, 1 + round % 5, round % 3 == 0 ? 12 : 400);
             put(forms, 2, row);
             List<Integer> bars = new ArrayList<>();
@@ -84,38 +84,38 @@ public final class NoughtTest {
     }
 
     private static void noughtMeansWholeNumbers() {
-        RingForms forms = new RingForms();
         for (int a = 1; a <= 9; a++) {
             for (int b = -9; b <= 9; b++) {
                 for (int c = -9; c < 0; c++) {
                     if (b != 0) {
-                        noughtIs(forms, 60, a, b, c);
-                        noughtIs(forms, 14, a, b, c, (a + b * b) % 7 - 3 == 0 ? 5 : (a + b * b) % 7 - 3);
+                        noughtIs(60, a, b, c);
+                        noughtIs(14, a, b, c, (a + b * b) % 7 - 3 == 0 ? 5 : (a + b * b) % 7 - 3);
                     }
                 }
             }
         }
-        noughtIs(forms, 12, 1, 1, 1, -7);
-        noughtIs(forms, 12, 1, 1, 1, -15);
-        noughtIs(forms, 12, 1, 1, 1, -28);
-        noughtIs(forms, 12, 1, 1, 1, -6);
-        noughtIs(forms, 6, 1, 1, 1, 1, -7);
-        noughtIs(forms, 6, 3, 3, -1, -1, -5);
-        noughtIs(forms, 6, 1, 2, 3, 5, 7);
-        noughtIs(forms, 6, -1, -2, -3, -5, -7);
+        noughtIs(12, 1, 1, 1, -7);
+        noughtIs(12, 1, 1, 1, -15);
+        noughtIs(12, 1, 1, 1, -28);
+        noughtIs(12, 1, 1, 1, -6);
+        noughtIs(6, 1, 1, 1, 1, -7);
+        noughtIs(6, 3, 3, -1, -1, -5);
+        noughtIs(6, 1, 2, 3, 5, 7);
+        noughtIs(6, -1, -2, -3, -5, -7);
     }
 
-    private static void noughtIs(RingForms forms, int size, int... row) {
+    private static void noughtIs(int size, int... row) {
+        RingForms forms = new RingForms();
         put(forms, 0, row);
         DUE.is("nought of " + Arrays.toString(row), forms.nought(0), Oracle.isNoughtWithin(row, size) ? 1 : 0);
     }
 
     private static void formsOfOneAndTwo() {
-        RingForms forms = new RingForms();
         for (int a = -400; a <= 400; a += 1) {
             if (a == 0) {
                 continue;
             }
+            RingForms forms = new RingForms();
             put(forms, 1, a);
             DUE.is("nought of " + a, forms.nought(1), 0);
             int primes = 1;
@@ -136,54 +136,53 @@ public final class NoughtTest {
         }
     }
 
-    private static void takesMeansFractions() {
+    private static void takesIs(int want, int t, int... row) {
         RingForms forms = new RingForms();
+        put(forms, 0, row);
+        DUE.is(t + " taken by " + Arrays.toString(row), forms.takes(0, t), want);
+    }
+
+    private static void takesMeansFractions() {
         for (int a = -6; a <= 6; a++) {
             for (int t = -400; t <= 400; t++) {
                 if (a == 0 || t == 0) {
                     continue;
                 }
-                put(forms, 0, a);
                 long root = Math.round(Math.sqrt(Math.abs((double) a * t)));
-                DUE.is(t + " taken by " + a, forms.takes(0, t), root * root == (long) a * t ? 1 : 0);
+                takesIs(root * root == (long) a * t ? 1 : 0, t, a);
             }
             for (int b = -6; b <= 6; b++) {
                 for (int t = -10; t <= 10; t++) {
                     if (a != 0 && b != 0 && t != 0) {
-                        put(forms, 0, a, b);
                         int[] more = {a, b, -t};
-                        DUE.is(t + " taken by " + a + ", " + b, forms.takes(0, t),
-                                Oracle.isNoughtWithin(more, 60) ? 1 : 0);
+                        takesIs(Oracle.isNoughtWithin(more, 60) ? 1 : 0, t, a, b);
                     }
                 }
             }
         }
-        threeSquares(forms);
+        threeSquares();
     }
 
     /** Sums of three squares of fractions: all above 0 but 4^k (8 m + 7); of four: all above 0. */
-    private static void threeSquares(RingForms forms) {
-        put(forms, 1, 1, 1, 1);
-        put(forms, 2, 1, 1, 1, 1);
-        put(forms, 3, -1, -1, -1, -1, -1);
+    private static void threeSquares() {
         for (int t = 1; t <= 400; t++) {
             int rest = t;
             while (rest % 4 == 0) {
                 rest /= 4;
             }
-            DUE.is(t + " taken by three squares", forms.takes(1, t), rest % 8 == 7 ? 0 : 1);
-            DUE.is(-t + " taken by three squares", forms.takes(1, -t), 0);
-            DUE.is(t + " taken by four squares", forms.takes(2, t), 1);
-            DUE.is(-t + " taken by four squares", forms.takes(2, -t), 0);
-            DUE.is(t + " taken by five squares below 0", forms.takes(3, t), 0);
-            DUE.is(-t + " taken by five squares below 0", forms.takes(3, -t), 1);
+            takesIs(rest % 8 == 7 ? 0 : 1, t, 1, 1, 1);
+            takesIs(0, -t, 1, 1, 1);
+            takesIs(1, t, 1, 1, 1, 1);
+            takesIs(0, -t, 1, 1, 1, 1);
+            takesIs(0, t, -1, -1, -1, -1, -1);
+            takesIs(1, -t, -1, -1, -1, -1, -1);
         }
     }
 
     private static void takesIsNoughtWithOneMore() {
         Random random = new Random(13);
-        RingForms forms = new RingForms();
         for (int round = 0; round < 4000; round++) {
+            RingForms forms = new RingForms();
             int[] row = randomRow(random, 1 + round % 5, round % 2 == 0 ? 30 : 400);
             int t = randomRow(random, 1, 400)[0];
             put(forms, 0, row);

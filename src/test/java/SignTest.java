@@ -3,7 +3,6 @@ import java.util.List;
 /** Promises 3 and 4: sign, odds. */
 public final class SignTest {
     private static final Due DUE = new Due();
-    private static final RingForms FORMS = new RingForms();
     private static final List<Integer> PLACES = Oracle.places();
 
     public static void main(String[] args) {
@@ -17,7 +16,7 @@ public final class SignTest {
     }
 
     private static void sign(int a, int b, int place, int want) {
-        DUE.is("sign(" + a + ", " + b + ", " + place + ")", FORMS.sign(a, b, place), want);
+        DUE.is("sign(" + a + ", " + b + ", " + place + ")", new RingForms().sign(a, b, place), want);
     }
 
     private static void signsMeanSolutions() {
@@ -53,8 +52,8 @@ public final class SignTest {
             for (int a = -30; a <= 30; a += 7) {
                 for (int b = 1; b <= 900; b += 89) {
                     for (int c = -997; c <= 1000; c += 399) {
-                        sign(a, b * c, place, FORMS.sign(a, b, place) * FORMS.sign(a, c, place));
-                        sign(b * c, a, place, FORMS.sign(a, b * c, place));
+                        sign(a, b * c, place, new RingForms().sign(a, b, place) * new RingForms().sign(a, c, place));
+                        sign(b * c, a, place, new RingForms().sign(a, b * c, place));
                     }
                 }
             }
@@ -89,8 +88,8 @@ public final class SignTest {
                 for (int place : PLACES) {
                     odd += Oracle.signByExponents(a, b, place) < 0 ? 1 : 0;
                 }
-                DUE.is("odds(" + a + ", " + b + ")", FORMS.odds(a, b), odd);
-                DUE.is("odds(" + a + ", " + b + ") modulo 2", FORMS.odds(a, b) % 2, 0);
+                DUE.is("odds(" + a + ", " + b + ")", new RingForms().odds(a, b), odd);
+                DUE.is("odds(" + a + ", " + b + ") modulo 2", new RingForms().odds(a, b) % 2, 0);
             }
         }
     }
@@ -98,8 +97,8 @@ public final class SignTest {
     private static void wrongInputsOfOdds() {
         int[] numbers = {0, 401, -401, 1000000, Integer.MAX_VALUE, Integer.MIN_VALUE};
         for (int a : numbers) {
-            DUE.is("odds(" + a + ", 1)", FORMS.odds(a, 1), RingForms.BAD);
-            DUE.is("odds(1, " + a + ")", FORMS.odds(1, a), RingForms.BAD);
+            DUE.is("odds(" + a + ", 1)", new RingForms().odds(a, 1), RingForms.BAD);
+            DUE.is("odds(1, " + a + ")", new RingForms().odds(1, a), RingForms.BAD);
         }
     }
 }

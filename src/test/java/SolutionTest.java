@@ -40,8 +40,8 @@ public final class SolutionTest {
     private static void worthOfNumbers() {
         int[] numbers = {0, 1, -1, 2, -7, 30, 999, 1000, -1000};
         for (int[] row : ROWS) {
-            RingForms forms = with(2, row);
             for (int x : numbers) {
+                RingForms forms = with(2, row);
                 for (int y : numbers) {
                     for (int z : numbers) {
                         DUE.is("worth(" + x + ", " + y + ", " + z + ") of " + Arrays.toString(row),
@@ -116,7 +116,6 @@ public final class SolutionTest {
     }
 
     private static void lines(int[] row) {
-        RingForms forms = with(3, row);
         int[] steps = {-30, -29, -11, -3, -1, 0, 1, 2, 7, 30};
         List<int[]> solutions = solutions(row);
         for (int i = 0; i < solutions.size(); i += 1 + solutions.size() / 8) {
@@ -125,17 +124,18 @@ public final class SolutionTest {
                 for (int v : steps) {
                     for (int w : steps) {
                         if (u != 0 || v != 0 || w != 0) {
-                            line(forms, row, p, u, v, w);
+                            line(row, p, u, v, w);
                         }
                     }
                 }
             }
-            line(forms, row, p, p[0], p[1], p[2]);
-            line(forms, row, p, -p[0], -p[1], -p[2]);
+            line(row, p, p[0], p[1], p[2]);
+            line(row, p, -p[0], -p[1], -p[2]);
         }
     }
 
-    private static void line(RingForms forms, int[] row, int[] p, int u, int v, int w) {
+    private static void line(int[] row, int[] p, int u, int v, int w) {
+        RingForms forms = with(3, row);
         long f = worth(row, u, v, w);
         long b = (long) row[0] * p[0] * u + (long) row[1] * p[1] * v + (long) row[2] * p[2] * w;
         long[] point = {f * p[0] - 2 * b * u, f * p[1] - 2 * b * v, f * p[2] - 2 * b * w};
