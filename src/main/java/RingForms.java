@@ -356,7 +356,9 @@ public final class RingForms {
             if (prime < 3) {
                 return true;
             }
-            int base = Math.floorMod(u, prime);
+            // Not by Math.floorMod: of a long and an int it calls on, the ninth call deep from takes().
+            int rest = (int) (u % prime);
+            int base = rest < 0 ? rest + prime : rest;
             int power = 1;
             for (int exponent = (prime - 1) / 2; exponent > 0; exponent >>= 1) {
                 if ((exponent & 1) == 1) {
